@@ -207,7 +207,7 @@ public final class HomeGround {
             return NONE;
         }
         int games = meet.plan.games;
-        if (now.count(NOTES) + games > MOST_NOTED) {
+        if (now.howMany(NOTES) + games > MOST_NOTED) {
             return NONE;
         }
         Draw draw = new Draw(seed);
@@ -244,7 +244,7 @@ public final class HomeGround {
         boolean sides = isSide(home) && isSide(guest) && home != guest;
         boolean pairs = within(goals, 0, 99) && within(cards, 0, 99);
         boolean others = within(minutes, 0, 19) && within(loud, 0, 999) && isJudge(judge);
-        if (!sides || !pairs || !others || !isYear(year) || now.count(NOTES) >= MOST_NOTED) {
+        if (!sides || !pairs || !others || !isYear(year) || now.howMany(NOTES) >= MOST_NOTED) {
             return NONE;
         }
         int k = now.newNote();
@@ -262,7 +262,7 @@ public final class HomeGround {
     }
 
     public int noted(int k, int what) {
-        if (k < 0 || k >= now.count(NOTES) || what < 0 || what >= NOTE_WIDTH) {
+        if (k < 0 || k >= now.howMany(NOTES) || what < 0 || what >= NOTE_WIDTH) {
             return NONE;
         }
         return now.noteOf(k, what);
@@ -736,7 +736,7 @@ public final class HomeGround {
     // ---- counts and images ----
 
     public int count(int what) {
-        return what < LEAGUE || what > NOTES ? NO_SUCH : now.count(what);
+        return what < LEAGUE || what > NOTES ? NO_SUCH : now.howMany(what);
     }
 
     public boolean image(int k) {
@@ -769,7 +769,7 @@ public final class HomeGround {
     /** Picks what is NOTED of some YEARS, by YEARS, then as NOTED: how many. */
     private int pick(int from, int to) {
         int all = 0;
-        for (int k = 0; k < now.count(NOTES) && all < picked.length; k++) {
+        for (int k = 0; k < now.howMany(NOTES) && all < picked.length; k++) {
             int year = now.noteOf(k, YEAR);
             if (!within(year, from, to)) {
                 continue;
@@ -909,7 +909,7 @@ public final class HomeGround {
         private int fault = 0;
         private int place = NONE;
 
-        int count(int what) {
+        int howMany(int what) {
             return valueAt(counts, what);
         }
 
@@ -925,7 +925,7 @@ public final class HomeGround {
             if (sort < LEAGUE || sort > PLAN) {
                 return NONE;
             }
-            int many = count(sort);
+            int many = howMany(sort);
             if (at == NONE) {
                 return many < MOST_TOLD ? many : NONE;
             }
@@ -933,7 +933,7 @@ public final class HomeGround {
         }
 
         private void grow(int sort, int slot) {
-            setAt(counts, sort, Math.max(count(sort), slot + 1));
+            setAt(counts, sort, Math.max(howMany(sort), slot + 1));
         }
 
         void putLeague(int slot, League league) {
@@ -970,7 +970,7 @@ public final class HomeGround {
         }
 
         int newNote() {
-            int k = count(NOTES);
+            int k = howMany(NOTES);
             setAt(counts, NOTES, k + 1);
             return k;
         }

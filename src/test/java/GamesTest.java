@@ -38,6 +38,7 @@ public final class GamesTest {
         rest();
         chance();
         play();
+        cards();
         playNot();
         likeAndSingle();
         felt();
@@ -187,6 +188,19 @@ public final class GamesTest {
         DUE.is("the year 0", x.noted(17, 2), 0);
     }
 
+    /** A guest has one CARD more as soon as JUDGED is above 0. */
+    private static void cards() {
+        HomeGround x = told();
+        Due.text(x, 2, 0, "soft;game 1 0;");
+        for (int much = 0; much < 3; much++) {
+            Due.text(x, 1, 0, "judged " + much + " 999;");
+            x.play(0, 0, 0, 3, 5);
+            DUE.is("judged", x.worth(0, 0, 0, 0, 4), much);
+            DUE.is("cards of the home side", x.noted(much, 5), x.noted(0, 5));
+            DUE.is("cards of the guest", x.noted(much, 6), x.noted(0, 6) + (much > 0 ? 1 : 0));
+        }
+    }
+
     private static void playNot() {
         HomeGround x = told();
         DUE.is("year -1", x.play(0, 0, 0, 1, -1), NONE);
@@ -325,6 +339,13 @@ public final class GamesTest {
         Due.text(x, 2, 0, "game 0 1;");
         DUE.is("chance", x.chance(0, 0, 0, 0, 0), 488000000000L);
         DUE.is("fair", x.fair(0, 0, 0, 0), 205);
+        // p 11, q 34: 0.10007 would be fair at 1000 first
+        Due.text(x, 0, 0, "ground 0 0 0;ground 0 0 0;side 0 0;side 1 12;");
+        Due.text(x, 1, 0, "base 22;known 1;");
+        DUE.is("chance", x.chance(0, 0, 0, 0, 0), 100070649360L);
+        DUE.is("fair at 1000", x.fair(0, 0, 0, 0), NONE);
+        DUE.is("bet at 999", x.bet(0, 0, 0, 0, 999), 100070649360L * 999 - 100000000000000L);
+        Due.text(x, 0, 0, "ground 0 0 0;ground 0 0 0;side 0 0;side 1 0;");
         // p 50, q 50: half of what is left by 20 / 64
         Due.text(x, 1, 0, "base 50;");
         DUE.is("even", x.chance(0, 0, 0, 0, 0), 343750000000L);

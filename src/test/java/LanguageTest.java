@@ -102,10 +102,9 @@ public final class LanguageTest {
             if (!Modifier.isStatic(one.getModifiers()) || Modifier.isPublic(one.getModifiers())) {
                 fault("not static or public: " + one);
             }
-            List<Member> members = new ArrayList<>(Arrays.asList(one.getDeclaredMethods()));
-            for (Member member : members) {
-                if (names.contains(member.getName()) && Modifier.isPrivate(member.getModifiers())) {
-                    fault("private but named like a public one: " + member);
+            for (Member member : one.getDeclaredMethods()) {
+                if (names.contains(member.getName())) {
+                    fault("inside, but named like a public one: " + member);
                 }
             }
         }

@@ -294,6 +294,13 @@ public final class TextsTest {
         DUE.fault(0, "ground1 1 1;", 0, NONE);
         DUE.fault(0, "ground 1 1 1;side0 1;side 0 0\n;", 0, NONE);
         DUE.fault(0, "gro und 1 1 1;", 1, 0);
+        DUE.fault(2, "softz;", 1, 0);
+        DUE.fault(2, "softa;", 1, 0);
+        DUE.fault(2, "soft`;", 1, 4);
+        DUE.fault(2, "soft{;", 1, 4);
+        DUE.fault(2, "at 1/;", 1, 4);
+        DUE.fault(2, "at 1:;", 1, 4);
+        DUE.fault(2, "game 0 1;game 0 9999;", 2, 16);
         DUE.fault(0, "ground", 1, 6);
         DUE.fault(0, "ground ", 1, 7);
         DUE.fault(0, "groun?", 1, 0);

@@ -138,9 +138,9 @@ public final class GamesTest {
     }
 
     private static void rest() {
-        HomeGround x = told();
-        Due.text(x, 2, 0, "day 100;game 0 1;day 103;game 2 1;day 110;game 0 1;day 117;game 2 0;game 2 0;");
         for (int per = 1; per <= 30; per++) {
+            HomeGround x = told();
+            Due.text(x, 2, 0, "day 100;game 0 1;day 103;game 2 1;day 110;game 0 1;day 117;game 2 0;game 2 0;");
             String law = "rest 9 " + per + ";";
             // without a game ahead REST is 30, never below PER
             DUE.is("first game by " + per, part(x, law, 0, 2), 0);
@@ -379,17 +379,24 @@ public final class GamesTest {
         }
     }
 
-    /** What is not there, and a PLAN that does not GO. */
-    private static void none() {
+    private static HomeGround toldAndNoted() {
         HomeGround x = told();
         for (int i = 0; i < 8; i++) {
             x.note(4, 5, 7, 10, 0, 0, 0, 0);
         }
+        return x;
+    }
+
+    /** What is not there, and a PLAN that does not GO. */
+    private static void none() {
         for (int k : new int[] {-1, 2, 3, Integer.MAX_VALUE, Integer.MIN_VALUE}) {
-            none(x, k, 0, 0, 0);
-            none(x, 0, k, 0, 0);
-            none(x, 0, 0, k, 0);
+            HomeGround y = toldAndNoted();
+            none(y, k, 0, 0, 0);
+            none(y, 0, k, 0, 0);
+            none(y, 0, 0, k, 0);
+            DUE.is("nothing more is noted", y.count(3), 8);
         }
+        HomeGround x = toldAndNoted();
         none(x, 1, 0, 0, 0);
         none(x, 0, 0, 1, 0);
         for (int game : new int[] {-1, 8, 40, Integer.MAX_VALUE, Integer.MIN_VALUE}) {

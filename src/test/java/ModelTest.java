@@ -2,14 +2,16 @@ import java.util.Random;
 
 /** Runs of calls, always the same ones, answered by the class and by Model. */
 public final class ModelTest {
-    private static final int RUNS = 1500;
-    private static final int CALLS = 500;
+    private static final int RUNS = 5500;
+    /** Nothing is promised of an object behind its 512th call; a step takes fewer than 60. */
+    private static final int CALLS = 512 - 60;
     private static final Due DUE = new Due();
 
     private final Random random;
     private final int run;
     private final HomeGround x = new HomeGround();
     private final Model model = new Model();
+    private int calls = 0;
     /** Runs differ in how many YEARS, SIDES and LOUD ones there are, so that edges of each are met. */
     private final int years;
     private final int sides;
@@ -32,7 +34,7 @@ public final class ModelTest {
         for (int sort = 0; sort < 3; sort++) {
             tell(sort, HomeGround.NONE);
         }
-        for (int call = 0; call < CALLS; call++) {
+        while (calls < CALLS) {
             int kind = random.nextInt(12);
             if (kind == 0) {
                 tape();
@@ -51,6 +53,7 @@ public final class ModelTest {
     }
 
     private void is(String call, long got, long want) {
+        calls++;
         DUE.is("run " + run + ": " + call, got, want);
     }
 
@@ -77,6 +80,7 @@ public final class ModelTest {
         }
         text = text.substring(0, Math.min(500, text.length()));
         Due.feed(x, text);
+        calls += text.length() / 20 + 2;
         for (int i = 0; i < text.length(); i += 20) {
             int[] numbers = new int[5];
             for (int k = 0; k < 20; k++) {
@@ -193,8 +197,7 @@ public final class ModelTest {
                 is("again", x.again(k), model.again(k));
             }
             default -> {
-                x.end(0);
-                model.end(0);
+                is("end(0)", x.end(0), model.end(0));
                 tell(random.nextInt(3), near(-1, 2));
             }
         }

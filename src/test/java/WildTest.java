@@ -3,8 +3,9 @@ import java.util.Random;
 
 /** Any numbers whatever in any state: no call throws or fails to end, and a run makes little. */
 public final class WildTest {
-    private static final int RUNS = 400;
-    private static final int CALLS = 512;
+    private static final int RUNS = 1000;
+    /** Nothing is promised of an object behind its 512th call; a text takes fewer than 30. */
+    private static final int CALLS = 512 - 30;
     /** The room of all calls, if each field and element were a byte alone. */
     private static final long ROOM = 7300000;
     private static final String[] BITS = {"ground", "side", "miles", "base", "known", "rest", "sung", "judged", "height",
@@ -16,6 +17,7 @@ public final class WildTest {
     private final Random random;
     private final HomeGround x = new HomeGround();
     private long kept = 0;
+    private int calls = 0;
 
     private WildTest(int run) {
         random = new Random(run);
@@ -29,7 +31,7 @@ public final class WildTest {
         for (int run = 0; run < RUNS; run++) {
             long before = beans.getThreadAllocatedBytes(thread);
             WildTest test = new WildTest(run);
-            for (int call = 0; call < CALLS; call++) {
+            while (test.calls < CALLS) {
                 test.call(test.random.nextInt(52));
             }
             most = Math.max(most, beans.getThreadAllocatedBytes(thread) - before);
@@ -52,11 +54,12 @@ public final class WildTest {
     }
 
     private void keep(long answer) {
+        calls++;
         kept += answer;
     }
 
     private void keep(boolean answer) {
-        kept += answer ? 1 : 0;
+        keep(answer ? 1L : 0L);
     }
 
     private void tell() {
@@ -66,6 +69,7 @@ public final class WildTest {
         }
         text.setLength(Math.min(text.length(), 500));
         Due.feed(x, text.toString());
+        calls += text.length() / 20 + 2;
         keep(x.text(random.nextInt(3), HomeGround.NONE));
     }
 

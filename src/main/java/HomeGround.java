@@ -1304,6 +1304,8 @@ public final class HomeGround {
         private static final int STOP = 3;
         private static final int WRONG = 4;
         private static final int MOST_DIGITS = 4;
+        /** Of one line. */
+        private static final int MOST_NUMBERS = 3;
 
         private byte[] tape = new byte[0];
         private int length = 0;
@@ -1312,8 +1314,8 @@ public final class HomeGround {
         private int token = END;
         private int start = 0;
         private int value = 0;
-        private final int[] numbers = new int[3];
-        private final int[] places = new int[3];
+        private final int[] numbers = new int[MOST_NUMBERS];
+        private final int[] places = new int[MOST_NUMBERS];
         private int fault = 0;
         private int place = NONE;
 
@@ -1349,7 +1351,7 @@ public final class HomeGround {
                 return false;
             }
             int many = numbersOf(form);
-            for (int k = 0; k < numbers.length; k++) {
+            for (int k = 0; k < MOST_NUMBERS; k++) {
                 numbers[k] = 0;
                 if (k < many) {
                     step();
@@ -1376,7 +1378,7 @@ public final class HomeGround {
                 fail(3, first);
                 return;
             }
-            for (int k = 0; k < many && k < numbers.length; k++) {
+            for (int k = 0; k < many && k < MOST_NUMBERS; k++) {
                 boolean twice = k == 1 && isCouple(form) && numbers[1] == numbers[0];
                 if (twice || numbers[k] < kind.leastOf(form, k) || numbers[k] > kind.mostOf(form, k)) {
                     fail(2, places[k]);

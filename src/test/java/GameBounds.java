@@ -316,7 +316,7 @@ final class GameBounds extends Bounds {
         for (int part : new int[] {-1, 10, 11, MIN, MAX}) {
             is("part " + part, x.worth(0, 0, 0, 1, part), NONE);
         }
-        for (int game : new int[] {-1, 2, 3, 40, MIN, MAX}) {
+        for (int game : new int[] {-1, 2, 3, 40, 715827883, -715827882, MIN, MAX}) {
             is("game " + game, x.worth(0, 0, 0, game, 7), NONE);
         }
         for (int k : new int[] {-1, 1, 2, 3, MIN, MAX}) {
@@ -343,7 +343,7 @@ final class GameBounds extends Bounds {
         for (int what : new int[] {-1, 4, 5, MIN, MAX}) {
             is("what " + what, x.chance(0, 0, 0, 0, what), NONE);
         }
-        for (int game : new int[] {-1, 1, 2, 40, MIN, MAX}) {
+        for (int game : new int[] {-1, 1, 2, 40, 715827883, -715827882, MIN, MAX}) {
             is("game " + game, x.chance(0, 0, 0, game, 0), NONE);
         }
         for (int k : new int[] {-1, 1, 2, 3, MIN, MAX}) {

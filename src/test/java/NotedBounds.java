@@ -139,8 +139,9 @@ final class NotedBounds extends Bounds {
             is("what " + what, x.noted(0, what), NONE);
             is("what " + what, x.noted(1, what), NONE);
         }
-        for (int k : new int[] {-1, 2, 79, 80, MIN, MAX}) {
-            for (int what : new int[] {0, 9, 10}) {
+        // ten times 429496730 comes round to 4
+        for (int k : new int[] {-1, 2, 79, 80, 429496730, -429496729, MIN, MAX}) {
+            for (int what : new int[] {0, 6, 9, 10}) {
                 is("number " + k, x.noted(k, what), NONE);
             }
         }
@@ -217,6 +218,8 @@ final class NotedBounds extends Bounds {
             n(1, 0, 4, 10), n(6, 7, 4, 21),
             // 5: then the least side first, winners and losers
             n(6, 7, 5, 10), n(3, 4, 5, 10),
+            // 7: more points with fewer goals less those of others: 2 has 6 by -7, 3 has 3 by 9, 4 has 0
+            n(2, 4, 7, 10), n(2, 4, 7, 10), n(3, 2, 7, 90),
             // 6: goals as guest and against count alike
             n(0, 5, 6, 3), n(1, 6, 6, 2), n(5, 6, 6, 0), n(1, 0, 6, 0));
         places(x, 1, 7, 2, 3, 0);
@@ -226,6 +229,7 @@ final class NotedBounds extends Bounds {
         places(x, 5, 3, 6, 4, 7);
         // 5: 3 + 1 points by 3, 6: 4 by 2, 0: 1 by -3, 1: 1 by -2
         places(x, 6, 5, 6, 1, 0);
+        places(x, 7, 2, 3, 4);
         is("points of a win", x.points(4, 4, 6), 3);
         is("points of as many", x.points(1, 1, 2), 1);
         is("points of the other one", x.points(1, 1, 3), 1);

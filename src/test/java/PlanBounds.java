@@ -31,6 +31,7 @@ final class PlanBounds extends Bounds {
         bet();
         best();
         fair();
+        eachOfThree();
     }
 
     // ---- what a PLAN leans ----
@@ -228,6 +229,9 @@ final class PlanBounds extends Bounds {
 
     // ---- which PARTS are AWAKE ----
 
+    /** No PARTS; those at which a shift of bits comes to 0 .. 5 again are among them. */
+    private static final int[] OTHER_PARTS = {-1, 6, 7, 31, 32, 33, 34, 35, 36, 37, 64, 67, -29, -32, -64, MIN, MIN + 3, MAX};
+
     /** Ground 0 is 100 LOUD, and 9 high; side 2 is on side 0's ground. */
     private static final String HEARD = "ground 9 0 100;ground 0 0 100;side 0 0;side 1 0;side 0 0;miles 0 1 500;";
 
@@ -270,7 +274,7 @@ final class PlanBounds extends Bounds {
         is("by another law", y.like(0, 0, 2, 0), 63);
 
         says(37, "NONE: the PLAN does not GO, or there is none such (of any)");
-        for (int part : new int[] {-1, 6, 7, MIN, MAX}) {
+        for (int part : OTHER_PARTS) {
             is("part " + part, x.like(0, 0, 0, part), NONE);
         }
         for (int k : new int[] {-1, 1, 2, 3, MIN, MAX}) {
@@ -305,7 +309,7 @@ final class PlanBounds extends Bounds {
         is("of forty games again", y.single(0, 0, 0, 3), 400);
 
         says(38, "NONE: as like()");
-        for (int part : new int[] {-1, 6, 7, MIN, MAX}) {
+        for (int part : OTHER_PARTS) {
             is("part " + part, x.single(0, 0, 0, part), NONE);
         }
         for (int k : new int[] {-1, 1, 2, 3, MIN, MAX}) {
@@ -375,7 +379,10 @@ final class PlanBounds extends Bounds {
         for (int year : new int[] {-1, 0, 8, 59, 60, MIN, MAX}) {
             felt(x, 0, 3, year, NO_SHARE, NO_SHARE);
         }
-        for (int part : new int[] {-1, 0, 1, 2, 4, 5, 6, 7, MIN, MAX}) {
+        for (int part : new int[] {0, 1, 2, 4, 5}) {
+            felt(x, 0, part, 6, NO_SHARE, NO_SHARE);
+        }
+        for (int part : OTHER_PARTS) {
             felt(x, 0, part, 6, NO_SHARE, NO_SHARE);
         }
         felt(x, 1, 3, 6, NO_SHARE, NO_SHARE);
@@ -455,7 +462,7 @@ final class PlanBounds extends Bounds {
         is("of no games", y.less(0, 0, 1, 1), 0);
 
         says(41, "The least long: as rule()");
-        for (int part : new int[] {-1, 6, 7, MIN, MAX}) {
+        for (int part : OTHER_PARTS) {
             is("part " + part, x.less(0, 0, 0, part), LEAST_LONG);
         }
         for (int k : new int[] {-1, 1, 2, 3, MIN, MAX}) {
@@ -490,7 +497,7 @@ final class PlanBounds extends Bounds {
         for (int price : new int[] {100, 1000, 0, -1, MIN, MAX}) {
             is("at " + price, x.bet(0, 0, 0, 0, price), LEAST_LONG);
         }
-        for (int game : new int[] {-1, 2, 3, 40, MIN, MAX}) {
+        for (int game : new int[] {-1, 2, 3, 40, 715827883, -715827882, MIN, MAX}) {
             is("game " + game, x.bet(0, 0, 0, game, 200), LEAST_LONG);
         }
         for (int k : new int[] {-1, 3, 4, MIN, MAX}) {
@@ -582,7 +589,7 @@ final class PlanBounds extends Bounds {
 
         says(44, "NONE: none, the PLAN does not GO, or there is none such (of any)");
         is("never won", sure.fair(0, 0, 0, 1), NONE);
-        for (int game : new int[] {-1, 2, 3, 40, MIN, MAX}) {
+        for (int game : new int[] {-1, 2, 3, 40, 715827883, -715827882, MIN, MAX}) {
             is("game " + game, sure.fair(0, 0, 0, game), NONE);
         }
         for (int k : new int[] {-1, 1, 2, 3, MIN, MAX}) {
@@ -594,5 +601,78 @@ final class PlanBounds extends Bounds {
         Due.text(sure, PLAN, NONE, "game 0 1;at 1;game 0 1;");
         is("a side too many", sure.fair(0, 0, 1, 0), NONE);
         is("a ground too many", sure.fair(0, 0, 2, 0), NONE);
+    }
+
+    // ---- each of three LEAGUES, LAWS and PLANS ----
+
+    private static final String[][] TEXTS = {
+        {FOUR, "ground 9 1 700;ground 50 0 90;ground 0 9 999;side 0 40;side 1 3;side 2 22;miles 0 1 700;miles 1 2 55;miles 0 2 6;",
+            "ground 1 0 50;ground 2 2 300;side 1 30;side 0 31;side 1 33;side 0 30;side 1 2;miles 1 0 450;"},
+        {"base 44;known 9;miles 3 70;rest 6 6;sung 2 45;judged 7 99;height 1 5;", "known 3;sung 1 9;height 8 2;base 20;",
+            "miles 9 400;rest 20 30;judged 4 10;"},
+        {"game 0 1;day 2;soft;game 1 2;day 5;game 2 0;at 1;game 0 2;empty;game 1 0;", "game 2 1;day 9;at 1;game 0 1;people;soft;game 2 0;",
+            "game 3 0;soft;day 1;game 1 3;strict;day 3;game 0 2;game 3 1;game 1 0;game 2 3;"}};
+
+    /** Of three of each, just those that are asked for answer: as an object does that has no others. */
+    private static void eachOfThree() {
+        says(TERMS, "LEAGUES, LAWS, PLANS, at most 3 of each, from 0 on");
+        long together = 0;
+        for (int pick = 0; pick < 27; pick++) {
+            int league = pick % 3;
+            int law = pick / 3 % 3;
+            int plan = pick / 9;
+            HomeGround x = new HomeGround();
+            for (int sort = 0; sort < 3; sort++) {
+                for (int k = 0; k < 3; k++) {
+                    is("text", Due.text(x, sort, NONE, TEXTS[sort][k]), k);
+                }
+            }
+            HomeGround y = told(TEXTS[LEAGUE][league], TEXTS[LAW][law], TEXTS[PLAN][plan]);
+            is("other law", Due.text(y, LAW, NONE, TEXTS[LAW][(law + 1) % 3]), 1);
+            long[] want = answers(y, 0, 0, 1, 0);
+            long[] have = answers(x, league, law, (law + 1) % 3, plan);
+            String call = "league " + league + " law " + law + " plan " + plan;
+            is(call + " first other answer", java.util.Arrays.mismatch(want, have), -1);
+            is(call + " goes", x.goes(league, plan), league != 1 || plan != 2);
+            together += want[0];
+        }
+        is("which of them go", together, 24);
+    }
+
+    private static long[] answers(HomeGround x, int league, int law, int other, int plan) {
+        java.util.List<Long> all = new java.util.ArrayList<>();
+        all.add(x.goes(league, plan) ? 1L : 0L);
+        all.add((long) x.turned(league, plan));
+        all.add((long) x.uneven(plan));
+        all.add(x.rule(league, law, other, plan));
+        all.add((long) x.best(league, law, plan, 250));
+        all.add((long) x.play(league, law, plan, 5, 6));
+        for (int game = 0; game < 6; game++) {
+            for (int what = 0; what < 10; what++) {
+                all.add((long) x.worth(league, law, plan, game, what));
+                all.add((long) x.noted(game, what));
+            }
+            for (int what = 0; what < 4; what++) {
+                all.add(x.chance(league, law, plan, game, what));
+            }
+            all.add(x.bet(league, law, plan, game, 250));
+            all.add((long) x.fair(league, law, plan, game));
+            all.add((long) x.early(league, plan, game));
+            all.add((long) x.like(league, law, plan, game));
+            all.add((long) x.single(league, law, plan, game));
+            all.add((long) x.felt(league, law, plan, game, 6, false));
+            all.add((long) x.felt(league, law, plan, game, 6, true));
+            all.add(x.less(league, law, plan, game));
+            all.add((long) x.travel(league, plan, game));
+            all.add((long) x.runs(plan, game, true));
+            all.add((long) x.runs(plan, game, false));
+            all.add((long) x.plan(plan, game, 0));
+            all.add((long) x.law(law, 10 + game));
+            all.add((long) x.law(law, 20 + game));
+            all.add((long) x.league(league, 50 + game));
+            all.add((long) x.league(league, 10 + game));
+            all.add((long) x.miles(league, 0, game));
+        }
+        return all.stream().mapToLong(Long::longValue).toArray();
     }
 }

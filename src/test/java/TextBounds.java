@@ -811,7 +811,7 @@ final class TextBounds extends Bounds {
 
         says(7, "NONE: there is none such (of any)");
         Due.text(x, LEAGUE, NONE, GROUND);
-        for (int k : new int[] {-1, 10, 11, MIN, MAX}) {
+        for (int k : new int[] {-1, 10, 11, 90, 429496730, MIN, MAX}) {
             is("from " + k, x.miles(0, k, 0), NONE);
             is("to " + k, x.miles(0, 0, k), NONE);
             is("of one, " + k, x.miles(0, k, k), NONE);
@@ -863,7 +863,8 @@ final class TextBounds extends Bounds {
         for (int what : new int[] {-1, 1, 2, 5, 6, MIN, MAX}) {
             is("of all, what " + what, x.plan(0, NONE, what), NO_SUCH);
         }
-        for (int game : new int[] {-2, 2, 39, 40, MIN, MAX}) {
+        // six times 715827883 comes round to 2
+        for (int game : new int[] {-2, 2, 39, 40, 715827883, -715827882, MIN, MAX}) {
             is("game " + game, x.plan(0, game, 0), NO_SUCH);
         }
         for (int k : new int[] {-1, 1, 2, 3, MIN, MAX}) {

@@ -505,6 +505,13 @@ final class GameBounds extends Bounds {
                 is("game " + game + " noted " + whats[k], x.noted(1 + game, whats[k]), want[game][k]);
             }
         }
+        HomeGround y = told("ground 0 0 0;" + times(8, "side 0 0;"), "", "game 7 6;game 2 5;game 5 2;game 0 7;");
+        is("play", y.play(0, 0, 0, 4, 3), 4);
+        int[][] sides = {{7, 6}, {2, 5}, {5, 2}, {0, 7}};
+        for (int game = 0; game < 4; game++) {
+            is("home of " + game, y.noted(game, 0), sides[game][0]);
+            is("guest of " + game, y.noted(game, 1), sides[game][1]);
+        }
     }
 
     // ---- promise 13 ----

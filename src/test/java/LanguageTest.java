@@ -10,12 +10,16 @@ import java.nio.file.Path;
 import java.util.ArrayList;
 import java.util.Arrays;
 import java.util.List;
+import java.util.Map;
 import java.util.Set;
+import java.util.TreeMap;
 import java.util.TreeSet;
 import java.util.regex.Matcher;
 import java.util.regex.Pattern;
 import javax.lang.model.element.Element;
 import javax.lang.model.element.ElementKind;
+import javax.lang.model.element.TypeElement;
+import javax.lang.model.type.DeclaredType;
 import javax.lang.model.type.TypeMirror;
 import javax.tools.JavaCompiler;
 import javax.tools.StandardJavaFileManager;
@@ -31,7 +35,12 @@ public final class LanguageTest {
         Tree.Kind.SYNCHRONIZED, Tree.Kind.ASSERT, Tree.Kind.LAMBDA_EXPRESSION, Tree.Kind.MEMBER_REFERENCE,
         Tree.Kind.SWITCH_EXPRESSION, Tree.Kind.INSTANCE_OF, Tree.Kind.IMPORT, Tree.Kind.PACKAGE, Tree.Kind.ANNOTATION);
 
+    private static final int MOST_DEEP = 8;
+
     private static int wrong = 0;
+    /** Of each method of the class and of those inside it, which of these it calls. */
+    private static final Map<String, Set<String>> CALLS = new TreeMap<>();
+    private static final Set<String> WITHOUT_BODY = new TreeSet<>();
 
     private static void fault(String what) {
         wrong++;
@@ -49,6 +58,7 @@ public final class LanguageTest {
         for (CompilationUnitTree unit : units) {
             new Rules(Trees.instance(task), unit).scan(unit, null);
         }
+        depths();
         String source = Files.readString(SOURCE);
         for (int i = 0; i < source.length(); i++) {
             if (source.charAt(i) > 126 || source.charAt(i) < 32 && source.charAt(i) != '\n') {
@@ -113,6 +123,30 @@ public final class LanguageTest {
         }
     }
 
+    /** Rules 8 and 11: how deep calls go; none of the class's methods calls itself, by whatever ways. */
+    private static void depths() {
+        for (String method : CALLS.keySet()) {
+            int deep = depth(method, 1);
+            if (deep > MOST_DEEP) {
+                fault(method + ": calls " + deep + " deep");
+            }
+        }
+        if (depth("HomeGround.text(int,int)", 1) < 6) {
+            fault("calls are not followed");
+        }
+    }
+
+    private static int depth(String method, int deep) {
+        int deepest = deep;
+        // far beyond the bound there can only be a method that calls itself
+        if (deep <= 2 * MOST_DEEP) {
+            for (String called : CALLS.getOrDefault(method, Set.of())) {
+                deepest = Math.max(deepest, depth(called, WITHOUT_BODY.contains(called) ? deep : deep + 1));
+            }
+        }
+        return deepest;
+    }
+
     private static final class Rules extends TreePathScanner<Void, Void> {
         private final Trees trees;
         private final CompilationUnitTree unit;
@@ -163,6 +197,47 @@ public final class LanguageTest {
             return super.visitClass(tree, nothing);
         }
 
+        private static String name(Element method) {
+            return method.getEnclosingElement().getSimpleName() + "." + method;
+        }
+
+        private static void calls(String from, String to) {
+            CALLS.computeIfAbsent(from, one -> new TreeSet<>()).add(to);
+        }
+
+        /** A method of an abstract class stands for all that implement it. */
+        private void overrides(Element method) {
+            if (((TypeElement) method.getEnclosingElement()).getSuperclass() instanceof DeclaredType above) {
+                for (Element inherited : above.asElement().getEnclosedElements()) {
+                    if (inherited.getModifiers().contains(javax.lang.model.element.Modifier.ABSTRACT)
+                            && inherited.toString().equals(method.toString())) {
+                        WITHOUT_BODY.add(name(inherited));
+                        calls(name(inherited), name(method));
+                    }
+                }
+            }
+        }
+
+        private void enter(Element called) {
+            TreePath path = getCurrentPath();
+            while (path != null && !(path.getLeaf() instanceof MethodTree)) {
+                path = path.getParentPath();
+            }
+            if (path != null) {
+                calls(name(trees.getElement(path)), name(called));
+            }
+        }
+
+        @Override
+        public Void visitNewClass(NewClassTree tree, Void nothing) {
+            Element called = trees.getElement(getCurrentPath());
+            if (tree.getClassBody() != null || !called.getEnclosingElement().toString().startsWith("HomeGround.")) {
+                fault("line " + start(tree) + ": makes no class of its own");
+            }
+            enter(called);
+            return super.visitNewClass(tree, nothing);
+        }
+
         @Override
         public Void visitMethod(MethodTree tree, Void nothing) {
             if (end(tree) - start(tree) >= 60) {
@@ -171,6 +246,7 @@ public final class LanguageTest {
             if (tree.getParameters().size() > (tree.getName().contentEquals("note") ? 8 : 7)) {
                 fault(tree.getName() + " takes too many parameters");
             }
+            overrides(trees.getElement(getCurrentPath()));
             return super.visitMethod(tree, nothing);
         }
 
@@ -180,6 +256,9 @@ public final class LanguageTest {
             String owner = called.getEnclosingElement().toString();
             String name = owner + "." + called.getSimpleName();
             boolean own = owner.equals("HomeGround") || owner.startsWith("HomeGround.");
+            if (own) {
+                enter(called);
+            }
             boolean maker = called.getKind() == ElementKind.CONSTRUCTOR && owner.equals("java.lang.Object");
             if (!own && !maker && !LIBRARY.contains(name)) {
                 fault("line " + start(tree) + ": " + name);
